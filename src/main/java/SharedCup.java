@@ -1254,8 +1254,7 @@ public final class SharedCup {
     private static final class Cup {
         private final House house;
         private final Law law;
-        private final int[] holdNow = new int[MOST_PEOPLE];
-        private final int[] holdBehind = new int[MOST_PEOPLE];
+        private final int[] newly = new int[MOST_PEOPLE];
 
         Cup(House house, Law law) {
             this.house = house;
@@ -1309,18 +1308,15 @@ public final class SharedCup {
             return Math.min(LAST_DAY, house.today + law.lastsFor(house, one, other, sip, many));
         }
 
-        /** The set of so many behind whose cup the most bonds hold. */
+        /** The set of so many behind whose cup the most bonds hold: no cup ends one, so those count that hold newly. */
         int binding(int sip, int many) {
             foresee(sip, many);
             int best = NONE;
-            int bestHold = NONE;
+            int most = NONE;
             for (int set = 0; set <= house.everybody(); set++) {
-                if (Integer.bitCount(set) == many) {
-                    int hold = holding(set);
-                    if (hold > bestHold) {
-                        bestHold = hold;
-                        best = set;
-                    }
+                if (Integer.bitCount(set) == many && newlyWithin(set) > most) {
+                    most = newlyWithin(set);
+                    best = set;
                 }
             }
             return best;
@@ -1329,27 +1325,24 @@ public final class SharedCup {
         /** What a cup makes of two hangs on how many share it, not on who: so each pair is asked once. */
         private void foresee(int sip, int many) {
             for (int one = 0; one < house.people; one++) {
-                holdNow[one] = 0;
-                holdBehind[one] = 0;
+                newly[one] = 0;
                 for (int other = one + 1; other < house.people; other++) {
-                    if (house.holds(one, other)) {
-                        holdNow[one] |= 1 << other;
-                    } else if (force(one, other, sip, many) > 0 && house.today < reach(one, other, sip, many)) {
-                        holdBehind[one] |= 1 << other;
+                    if (!house.holds(one, other) && force(one, other, sip, many) > 0
+                            && house.today < reach(one, other, sip, many)) {
+                        newly[one] |= 1 << other;
                     }
                 }
             }
         }
 
-        private int holding(int set) {
-            int hold = 0;
+        private int newlyWithin(int set) {
+            int pairs = 0;
             for (int one = 0; one < house.people; one++) {
-                hold += Integer.bitCount(holdNow[one]);
                 if ((set & 1 << one) != 0) {
-                    hold += Integer.bitCount(holdBehind[one] & set);
+                    pairs += Integer.bitCount(newly[one] & set);
                 }
             }
-            return hold;
+            return pairs;
         }
     }
 

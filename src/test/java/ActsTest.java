@@ -138,6 +138,13 @@ public final class ActsTest {
         CHECK.is("free(9999)", x.free(9999), 3);
         CHECK.is("widest(0, 2): none of them binds", x.widest(0, 2), 3);
         CHECK.is("ends()", x.ends(), 9999);
+        Check.house(x, "person at 2;binds 1;day 999");
+        Check.law(x, "bind 1 if one > 0");
+        CHECK.is("widest(1, 2): 1 and 2 alone", x.widest(1, 2), 0b110);
+        for (int k = 0; k < 150; k++) {
+            x.days(60);
+        }
+        CHECK.is("on the last DAY none of them binds", x.widest(1, 2), 0b011);
         SharedCup y = Check.of("person at 0;person at 1;day 999;lasts 400");
         for (int k = 0; k < 145; k++) {
             y.days(60);

@@ -123,6 +123,9 @@ public final class ModelTest {
         }
         boolean people = name.equals("would") && place == 0 || name.equals("oath") && place == 1;
         boolean many = name.equals("ahead") && place == 1 || name.equals("calm") || name.equals("trial") || name.equals("span");
+        if (name.equals("told") && place > 1) {
+            return place == 2 ? random.nextInt(4) : place == 3 ? 2 + random.nextInt(7) : random.nextInt(3);
+        }
         int bound = people ? 256 : many ? 40 : name.equals("free") ? 300 : name.equals("count") ? 14
             : name.equals("feed") || name.equals("seed") ? Integer.MAX_VALUE : name.equals("log") && place == 0 ? 62
             : Math.max(5, model.count(0)) + (random.nextInt(6) == 0 ? 2 : 0);
@@ -170,7 +173,7 @@ public final class ModelTest {
         int people = model.count(0);
         int lines = random.nextInt(12) == 0 ? 13 + random.nextInt(3) : random.nextInt(12);
         for (int line = 0; line < lines; line++) {
-            int kind = random.nextInt(people < 3 ? 3 : 12);
+            int kind = random.nextInt(people < 3 ? 3 : 13);
             if (kind < 3 && (people < 8 || random.nextInt(12) == 0)) {
                 text.append("person ").append("at").append(gap()).append(random.nextInt(6));
                 people++;
@@ -201,9 +204,11 @@ public final class ModelTest {
             case 7:
                 return "wed" + gap() + one + " " + other;
             case 8:
+            case 12:
                 String rooms = "";
+                int few = 1 + random.nextInt(3);
                 for (char room = 'a'; room <= 'f'; room++) {
-                    rooms = random.nextInt(3) == 0 ? room + rooms : rooms;
+                    rooms = random.nextInt(few) == 0 ? room + rooms : rooms;
                 }
                 return "flour " + (rooms.isEmpty() ? "a" : rooms);
             case 9:

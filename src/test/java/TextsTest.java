@@ -107,6 +107,12 @@ public final class TextsTest {
         wrongHouse("lasts 0", 6);
         wrongHouse("lasts 401", 6);
         wrongHouse("day", 3);
+        wrongHouse("dayz 1", 0);
+        wrongHouse("flour az", 6);
+        wrongHouse("day1:", 4);
+        wrongHouse("day 1/", 5);
+        wrongHouse("day`1", 3);
+        wrongHouse("day{1", 3);
         wrongHouse("day 1000", 4);
         wrongHouse("day -1", 4);
         wrongHouse("bond 0 1", 8);
