@@ -17,41 +17,14 @@ public final class BackTest {
         return Check.of("person at 0;person at 0;person at 2;flour ac;bond 0 1 9 till 300;likes 0 012;likes 2 340");
     }
 
-    /** All that can be asked, but for the tape, fault() and what may be undone. */
-    private static String all(SharedCup x) {
-        StringBuilder text = new StringBuilder();
-        for (int what = 0; what < 12; what++) {
-            text.append(x.count(what)).append(' ');
-        }
-        for (int one = 0; one < x.count(0); one++) {
-            for (int what = 0; what < 8; what++) {
-                text.append(x.person(one, what)).append(' ');
-            }
-            for (int other = 0; other < x.count(0); other++) {
-                if (one != other) {
-                    text.append(x.liking(one, other)).append(' ').append(x.bond(one, other, false)).append(' ');
-                    text.append(x.bond(one, other, true)).append(' ').append(x.told(one, other, 1, 3, 2)).append(' ');
-                }
-            }
-        }
-        for (int ago = 0; ago < 60; ago++) {
-            for (int what = 0; what < 4; what++) {
-                text.append(x.log(ago, what)).append(' ');
-            }
-        }
-        int seed = x.seed(0);
-        x.seed(seed);
-        return text.append(seed).toString();
-    }
-
     private static void undoes(SharedCup x, String name, boolean changes, Check.Call act) {
-        String before = all(x);
+        String before = Check.all(x);
         int acts = x.count(12);
         act.run();
         CHECK.is("acts behind " + name, x.count(12), acts + 1);
-        CHECK.same(name + " changes something", !all(x).equals(before), changes);
+        CHECK.same(name + " changes something", !Check.all(x).equals(before), changes);
         CHECK.yes("undo of " + name, x.undo());
-        CHECK.same("all as ahead of " + name, all(x), before);
+        CHECK.same("all as ahead of " + name, Check.all(x), before);
         CHECK.is("acts ahead of " + name, x.count(12), acts);
     }
 
@@ -146,21 +119,21 @@ public final class BackTest {
         x.days(5);
         x.seed(12);
         x.image();
-        String before = all(x);
+        String before = Check.all(x);
         x.days(60);
         x.share(7, 2);
         x.wed(0, 1);
         x.strew(1, true);
         Check.house(x, "person at 5;binds 2;lasts 3;day 2;likes 1 9999");
         CHECK.yes("back", x.back());
-        CHECK.same("all as it was", all(x), before);
+        CHECK.same("all as it was", Check.all(x), before);
         CHECK.is("a person that is none any more", x.count(0), 3);
         Check.house(x, "person at 1");
         CHECK.is("a new one likes nobody", x.liking(3, 0), 0);
         CHECK.is("and is not liked", x.liking(1, 3), 0);
         x.days(9);
         CHECK.yes("back again", x.back());
-        CHECK.same("all as it was, again", all(x), before);
+        CHECK.same("all as it was, again", Check.all(x), before);
         x.go(1, 5);
         CHECK.yes("undo", x.undo());
         x.go(1, 4);

@@ -16,16 +16,8 @@ public final class BondsTest {
         CHECK.close();
     }
 
-    private static String people(int many) {
-        StringBuilder text = new StringBuilder("person at 0");
-        for (int k = 1; k < many; k++) {
-            text.append(";person at 0");
-        }
-        return text.toString();
-    }
-
     private static void circlesAndEnds() {
-        SharedCup x = Check.of(people(7), "bond 0 1 1 till 10;bond 1 2 1 till 20;bond 3 4 9 till 15;bond 5 6 1 till 5");
+        SharedCup x = Check.of(Check.people(7), "bond 0 1 1 till 10;bond 1 2 1 till 20;bond 3 4 9 till 15;bond 5 6 1 till 5");
         CHECK.is("circles()", x.circles(), 3);
         CHECK.is("ends()", x.ends(), 20);
         CHECK.is("free(0)", x.free(0), 0);
@@ -51,7 +43,7 @@ public final class BondsTest {
     }
 
     private static void secretsAndTell() {
-        SharedCup x = Check.of(people(5), "wed 0 1;bond 0 1 3 till 9;bond 1 2 3 till 9;bond 2 3 3 till 9;bond 3 4 3 till 9");
+        SharedCup x = Check.of(Check.people(5), "wed 0 1;bond 0 1 3 till 9;bond 1 2 3 till 9;bond 2 3 3 till 9;bond 3 4 3 till 9");
         CHECK.is("secrets()", x.secrets(), 3);
         CHECK.is("tell(): 1 and 3, less than 2 and 3, 2 and 4", x.tell(), 0b01010);
         x.wed(2, 3);
@@ -62,16 +54,16 @@ public final class BondsTest {
         x.wash(3, 4);
         CHECK.is("tell() of none", x.tell(), 0);
         CHECK.is("secrets() of none", x.secrets(), 0);
-        SharedCup y = Check.of(people(8));
+        SharedCup y = Check.of(Check.people(8));
         y.share(255, 0);
         CHECK.is("secrets() of all", y.secrets(), 28);
         CHECK.is("tell() of all but one", y.tell(), 127);
-        SharedCup z = Check.of(people(4), "bond 3 0 1 till 9;bond 3 1 1 till 9;bond 3 2 1 till 9");
+        SharedCup z = Check.of(Check.people(4), "bond 3 0 1 till 9;bond 3 1 1 till 9;bond 3 2 1 till 9");
         CHECK.is("tell() of one in the middle", z.tell(), 8);
     }
 
     private static void would() {
-        SharedCup x = Check.of(people(4), "lasts 10;bond 0 1 9 till 30;bond 1 2 5 till 10;bond 2 3 4 till 10");
+        SharedCup x = Check.of(Check.people(4), "lasts 10;bond 0 1 9 till 30;bond 1 2 5 till 10;bond 2 3 4 till 10");
         CHECK.is("would(15, 0): 0 2, 0 3, 1 3 and 2 3", x.would(15, 0), 4);
         CHECK.is("would(15, 1): 2 is less than those that hold", x.would(15, 1), 3);
         CHECK.is("would(15, 2)", x.would(15, 2), 5);
@@ -88,7 +80,7 @@ public final class BondsTest {
     }
 
     private static void widest() {
-        SharedCup x = Check.of(people(4), "bond 0 1 1 till 9;bond 0 2 1 till 9;bond 1 2 1 till 9");
+        SharedCup x = Check.of(Check.people(4), "bond 0 1 1 till 9;bond 0 2 1 till 9;bond 1 2 1 till 9");
         CHECK.is("widest(0, 2)", x.widest(0, 2), 0b1001);
         CHECK.is("widest(0, 3)", x.widest(0, 3), 0b1011);
         CHECK.is("widest(0, 4)", x.widest(0, 4), 0b1111);
@@ -106,7 +98,7 @@ public final class BondsTest {
     }
 
     private static void parts() {
-        SharedCup x = Check.of(people(6), "bond 0 1 1 till 9;bond 0 2 1 till 9;bond 1 3 1 till 9;bond 2 3 1 till 9;bond 1 2 1 till 9;bond 3 4 1 till 9");
+        SharedCup x = Check.of(Check.people(6), "bond 0 1 1 till 9;bond 0 2 1 till 9;bond 1 3 1 till 9;bond 2 3 1 till 9;bond 1 2 1 till 9;bond 3 4 1 till 9");
         CHECK.is("parts(0, 3)", x.parts(0, 3), 2);
         CHECK.is("parts(1, 2)", x.parts(1, 2), 3);
         CHECK.is("parts(4, 0)", x.parts(4, 0), 1);
@@ -114,7 +106,7 @@ public final class BondsTest {
         CHECK.argument("parts(0, 0)", () -> x.parts(0, 0));
         CHECK.index("parts(0, 6)", () -> x.parts(0, 6));
         CHECK.index("parts(6, 6)", () -> x.parts(6, 6));
-        SharedCup y = Check.of(people(8));
+        SharedCup y = Check.of(Check.people(8));
         y.share(255, 0);
         CHECK.is("parts(0, 7) of all", y.parts(0, 7), 7);
         y.wash(3, 7);
@@ -122,7 +114,7 @@ public final class BondsTest {
     }
 
     private static void lovers() {
-        SharedCup x = Check.of(people(4), "likes 0 0153;likes 1 1012;likes 2 5000;likes 3 2900");
+        SharedCup x = Check.of(Check.people(4), "likes 0 0153;likes 1 1012;likes 2 5000;likes 3 2900");
         CHECK.is("lovers(false): 0 1, 0 2, 0 3, 1 3", x.lovers(false), 4);
         CHECK.is("lovers(true)", x.lovers(true), 1);
         Check.house(x, "bond 0 1 1 till 9");
@@ -138,11 +130,11 @@ public final class BondsTest {
 
     private static void steady() {
         // each of 0, 1, 2 likes the next one best, and all of them 3 the least: whoever has 3 is left
-        SharedCup x = Check.of(people(4), "likes 0 0920;likes 1 2090;likes 2 9200;likes 3 5550");
+        SharedCup x = Check.of(Check.people(4), "likes 0 0920;likes 1 2090;likes 2 9200;likes 3 5550");
         CHECK.is("no way is steady", x.steady(-1), 0);
         CHECK.is("whom 0 has", x.steady(0), -1);
         // two ways: 0 1 with 2 3, where 0 and 2 have their best, and 0 3 with 1 2, where 1 and 3 do
-        SharedCup y = Check.of(people(4), "likes 0 0915;likes 1 5091;likes 2 1509;likes 3 9150");
+        SharedCup y = Check.of(Check.people(4), "likes 0 0915;likes 1 5091;likes 2 1509;likes 3 9150");
         CHECK.is("two ways", y.steady(-1), 2);
         CHECK.is("0 has the least", y.steady(0), 1);
         CHECK.is("1 has", y.steady(1), 0);
@@ -153,10 +145,10 @@ public final class BondsTest {
     }
 
     private static void steadyOfFewAndMany() {
-        SharedCup one = Check.of(people(1));
+        SharedCup one = Check.of(Check.people(1));
         CHECK.is("one alone: a way", one.steady(-1), 1);
         CHECK.is("has oneself", one.steady(0), 0);
-        SharedCup three = Check.of(people(3));
+        SharedCup three = Check.of(Check.people(3));
         CHECK.is("three who like nobody: each way, as 0 is not more than 0", three.steady(-1), 3);
         CHECK.is("0 is left out in the first", three.steady(0), 0);
         CHECK.is("1 has 2", three.steady(1), 2);
@@ -167,31 +159,31 @@ public final class BondsTest {
         Check.house(three, "likes 2 990;likes 0 001");
         CHECK.is("0 and 2 as well: 1 does not matter", three.steady(0), 2);
         CHECK.is("of these one", three.steady(-1), 1);
-        SharedCup eight = Check.of(people(8));
+        SharedCup eight = Check.of(Check.people(8));
         CHECK.is("all ways of eight", eight.steady(-1), 105);
         CHECK.is("the first: 0 with 1", eight.steady(0), 1);
         CHECK.is("the first: 6 with 7", eight.steady(6), 7);
-        SharedCup seven = Check.of(people(7));
+        SharedCup seven = Check.of(Check.people(7));
         CHECK.is("all ways of seven", seven.steady(-1), 105);
         CHECK.is("the first: 0 alone", seven.steady(0), 0);
         CHECK.is("the first: 2 with 1", seven.steady(2), 1);
     }
 
     private static void fondest() {
-        SharedCup x = Check.of(people(4), "likes 0 0500;likes 1 4090;likes 2 0906");
+        SharedCup x = Check.of(Check.people(4), "likes 0 0500;likes 1 4090;likes 2 0906");
         CHECK.is("1 with 2 for 18, 0 with 3 for 0: less than none is", x.fondest(), 18);
         Check.house(x, "likes 3 9090");
         CHECK.is("0 1 and 2 3 for 9 and 15; 1 2 and 0 3 for 18 and 9", x.fondest(), 27);
-        SharedCup y = Check.of(people(3), "likes 0 099;likes 1 909;likes 2 990");
+        SharedCup y = Check.of(Check.people(3), "likes 0 099;likes 1 909;likes 2 990");
         CHECK.is("of three a pair", y.fondest(), 18);
-        CHECK.is("of one none", Check.of(people(1)).fondest(), 0);
-        SharedCup z = Check.of(people(8), "likes 0 99999999;likes 1 99999999;likes 2 99999999;likes 3 99999999",
+        CHECK.is("of one none", Check.of(Check.people(1)).fondest(), 0);
+        SharedCup z = Check.of(Check.people(8), "likes 0 99999999;likes 1 99999999;likes 2 99999999;likes 3 99999999",
             "likes 4 99999999;likes 5 99999999;likes 6 99999999;likes 7 99999999");
         CHECK.is("of eight four, and one's own is not looked at", z.fondest(), 72);
     }
 
     private static void betweenAndHub() {
-        SharedCup x = Check.of(people(8), "bond 0 1 1 till 9;bond 1 2 1 till 9;bond 2 3 1 till 9;bond 3 4 1 till 9;bond 4 5 1 till 9;bond 5 6 1 till 9;bond 6 7 1 till 9");
+        SharedCup x = Check.of(Check.people(8), "bond 0 1 1 till 9;bond 1 2 1 till 9;bond 2 3 1 till 9;bond 3 4 1 till 9;bond 4 5 1 till 9;bond 5 6 1 till 9;bond 6 7 1 till 9");
         CHECK.is("between(0, 7)", x.between(0, 7), 7);
         CHECK.is("between(7, 0)", x.between(7, 0), 7);
         CHECK.is("between(3, 3)", x.between(3, 3), 0);

@@ -55,6 +55,14 @@ final class Check {
         throwsA(java.util.NoSuchElementException.class, name, call);
     }
 
+    void unsupported(String name, Call call) {
+        throwsA(UnsupportedOperationException.class, name, call);
+    }
+
+    void state(String name, Call call) {
+        throwsA(IllegalStateException.class, name, call);
+    }
+
     private void fail(String text) {
         wrong++;
         if (wrong <= 40) {
@@ -102,6 +110,61 @@ final class Check {
             house(cup, text);
         }
         return cup;
+    }
+
+    static String times(String line, int many, String between) {
+        StringBuilder text = new StringBuilder(line);
+        for (int k = 1; k < many; k++) {
+            text.append(between).append(line);
+        }
+        return text.toString();
+    }
+
+    /** A text of so many PEOPLE, all in ROOM 0. */
+    static String people(int many) {
+        return times("person at 0", many, ";");
+    }
+
+    /** The text with blanks behind it, so that it has so many bytes. */
+    static String filled(String text, int length) {
+        return text + " ".repeat(length - text.length());
+    }
+
+    /** A house on the last DAY, which no text can tell. */
+    static SharedCup onLastDay(String text) {
+        SharedCup cup = of(text, "day 999");
+        for (int k = 0; k < 150; k++) {
+            cup.days(60);
+        }
+        return cup;
+    }
+
+    /** All that can be asked of a house, but for the tape, fault() and what may be undone. */
+    static String all(SharedCup x) {
+        StringBuilder text = new StringBuilder();
+        for (int what = 0; what < 12; what++) {
+            text.append(x.count(what)).append(' ');
+        }
+        for (int one = 0; one < x.count(0); one++) {
+            for (int what = 0; what < 8; what++) {
+                text.append(x.person(one, what)).append(' ');
+            }
+            for (int other = 0; other < x.count(0); other++) {
+                if (one != other) {
+                    text.append(x.liking(one, other)).append(' ').append(x.bond(one, other, false)).append(' ');
+                    text.append(x.bond(one, other, true)).append(' ').append(x.told(one, other, 1, 3, 0)).append(' ');
+                    text.append(x.told(one, other, 1, 3, 1)).append(' ').append(x.told(one, other, 1, 3, 2)).append(' ');
+                }
+            }
+        }
+        for (int ago = 0; ago <= x.count(11); ago++) {
+            for (int what = 0; what < 4; what++) {
+                text.append(x.log(ago, what)).append(' ');
+            }
+        }
+        int seed = x.seed(0);
+        x.seed(seed);
+        return text.append(seed).toString();
     }
 
     static String bytes(int... numbers) {

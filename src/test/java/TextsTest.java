@@ -129,22 +129,14 @@ public final class TextsTest {
         wrongHouse("bond 01 9 till 1", 8);
     }
 
-    private static String times(String line, int many, String between) {
-        StringBuilder text = new StringBuilder(line);
-        for (int k = 1; k < many; k++) {
-            text.append(between).append(line);
-        }
-        return text.toString();
-    }
-
     private static void houseLimits() {
-        wrongHouse(times("person at 0", 7, ";"), 6 * 12);
-        wrongHouse(times("person at 0", 6, ";") + "; person", 6 * 12 + 1);
-        wrongHouse(times("day 1", 15, ";"), 84);
-        wrongHouse(times("day 1", 14, ";") + ";", 84);
-        wrongHouse(times("day 1", 14, ";") + "; ; ", 85);
-        wrongHouse(times("day 1", 14, ";") + "; cup", 85);
-        SharedCup x = Check.of(times("day 1", 14, ";"), times("person at 0", 8, ";"));
+        wrongHouse(Check.times("person at 0", 7, ";"), 6 * 12);
+        wrongHouse(Check.times("person at 0", 6, ";") + "; person", 6 * 12 + 1);
+        wrongHouse(Check.times("day 1", 15, ";"), 84);
+        wrongHouse(Check.times("day 1", 14, ";") + ";", 84);
+        wrongHouse(Check.times("day 1", 14, ";") + "; ; ", 85);
+        wrongHouse(Check.times("day 1", 14, ";") + "; cup", 85);
+        SharedCup x = Check.of(Check.times("day 1", 14, ";"), Check.times("person at 0", 8, ";"));
         CHECK.is("eight PEOPLE", x.count(0), 8);
         x.go(0, 1);
         for (int text = 3; text <= 12; text++) {
@@ -216,9 +208,9 @@ public final class TextsTest {
     }
 
     private static void lawLimits() {
-        wrongLaw(times("bind 5", 13, ";"), 84);
-        wrongLaw(times("bind 5", 12, ";") + " ; ", 86);
-        wrongLaw(times("bind 5", 12, ";") + " ; last", 86);
+        wrongLaw(Check.times("bind 5", 13, ";"), 84);
+        wrongLaw(Check.times("bind 5", 12, ";") + " ; ", 86);
+        wrongLaw(Check.times("bind 5", 12, ";") + " ; last", 86);
         wrongLaw("bind 1 if ((((((( wed", 16);
         wrongLaw("bind 1 if not(not(not(not wed", 22);
         wrongLaw("bind 1 if (not (not (not (wed))))", 25);
@@ -226,13 +218,13 @@ public final class TextsTest {
         SharedCup x = Check.of("person at 0;person at 0");
         CHECK.is("six deep", Check.law(x, "bind 1 if ((((((wed or bound))))))"), 1);
         CHECK.is("six deep, twice", Check.law(x, "bind 1 if not(not(not wed))and((not((not bound))))"), 1);
-        CHECK.is("twelve", Check.law(x, times("last 99", 12, ";")), 12);
+        CHECK.is("twelve", Check.law(x, Check.times("last 99", 12, ";")), 12);
         CHECK.is("LASTS by all of them", x.told(0, 1, 0, 2, 1), 100 + 12 * 99);
         CHECK.is("without a LINE", Check.law(x, "  "), 0);
         CHECK.is("count(2)", x.count(2), 0);
         CHECK.is("SUSPECTS by none", x.told(0, 1, 0, 2, 2), 0);
         CHECK.is("LASTS by none", x.told(0, 1, 0, 2, 1), 100);
-        String sums = "bind 1 if " + times("1", 190, "+") + "<190";
+        String sums = "bind 1 if " + Check.times("1", 190, "+") + "<190";
         CHECK.is("a long sum", Check.law(x, sums), 1);
         CHECK.is("is not below itself", x.told(0, 1, 0, 2, 0), 5);
     }
