@@ -1,9 +1,4 @@
-import java.lang.reflect.InvocationTargetException;
 import java.lang.reflect.Method;
-import java.util.ArrayList;
-import java.util.Arrays;
-import java.util.Comparator;
-import java.util.List;
 import java.util.Random;
 
 /** Many runs of drawn calls, each made on the class and on the plain model: every answer and exception is the same. */
@@ -12,21 +7,16 @@ public final class ModelTest {
     private static final String[] PARTS = {"one", "other", "sip", "many", "liking", "day", "0", "1", "3", "7", "12", "999"};
 
     private final Random random;
-    private final Check check;
-    private final List<String> story = new ArrayList<>();
-    private SharedCup cup = new SharedCup();
-    private Model model = new Model();
+    private final Twins twins;
 
     private ModelTest(long seed, Check check) {
         this.random = new Random(seed);
-        this.check = check;
+        this.twins = new Twins(check);
     }
 
     public static void main(String[] args) throws Exception {
         Check check = new Check();
-        Method[] face = Arrays.stream(SharedCup.class.getDeclaredMethods())
-            .filter(m -> java.lang.reflect.Modifier.isPublic(m.getModifiers()))
-            .sorted(Comparator.comparing(Method::getName)).toArray(Method[]::new);
+        Method[] face = Twins.face();
         for (int seed = 0; seed < RUNS; seed++) {
             if (!new ModelTest(seed, check).run(face)) {
                 break;
@@ -45,14 +35,14 @@ public final class ModelTest {
             int dice = random.nextInt(100);
             boolean right = dice < 4 ? tell(random.nextInt(4) > 0)
                 : dice < 8 ? tellDrinkers()
-                : dice < 9 ? callBoth("image")
-                : dice < 10 ? callBoth("back")
-                : dice < 13 ? callBoth("undo")
-                : dice < 20 ? callBoth("days", dice < 15 ? 60 : 1 + random.nextInt(6))
-                : dice < 26 ? callBoth("share", random.nextInt(256), random.nextInt(4))
+                : dice < 9 ? twins.call("image")
+                : dice < 10 ? twins.call("back")
+                : dice < 13 ? twins.call("undo")
+                : dice < 20 ? twins.call("days", dice < 15 ? 60 : 1 + random.nextInt(6))
+                : dice < 26 ? twins.call("share", random.nextInt(256), random.nextInt(4))
                 : drawn(face[random.nextInt(face.length)]);
             if (!right) {
-                story.forEach(System.out::println);
+                twins.tell();
                 return false;
             }
         }
@@ -69,12 +59,12 @@ public final class ModelTest {
         if (text.length() > 400) {
             text = text.substring(0, 400);
         }
-        story.add("-- \"" + text + "\"");
-        return put(text) && callBoth(law ? "law" : "house") && callBoth("fault") && callBoth("count", law ? 2 : 0);
+        twins.remark("-- \"" + text + "\"");
+        return twins.put(text, random.nextInt(256)) && twins.call(law ? "law" : "house") && twins.call("fault") && twins.call("count", law ? 2 : 0);
     }
 
     private boolean tellDrinkers() throws Exception {
-        int people = Math.max(1, model.count(0));
+        int people = Math.max(1, twins.model.count(0));
         StringBuilder text = new StringBuilder();
         for (int row = random.nextInt(random.nextInt(8) == 0 ? 14 : 4); row > 0; row--) {
             int from = random.nextInt(people);
@@ -85,27 +75,7 @@ public final class ModelTest {
         if (random.nextInt(15) == 0) {
             text.append((char) 0);
         }
-        return put(text.toString()) && (random.nextBoolean() ? callBoth("look") : callBoth("drank", random.nextInt(2)));
-    }
-
-    private boolean put(String text) throws Exception {
-        if (!callBoth("end", 0)) {
-            return false;
-        }
-        for (int from = 0; from < text.length(); from += 20) {
-            Object[] words = new Object[5];
-            for (int i = 0; i < 5; i++) {
-                int word = 0;
-                for (int at = from + 4 * i; at < from + 4 * i + 4; at++) {
-                    word = word << 8 | (at < text.length() ? text.charAt(at) & 255 : random.nextInt(256));
-                }
-                words[i] = word;
-            }
-            if (!callBoth("feed", words)) {
-                return false;
-            }
-        }
-        return callBoth("end", text.length());
+        return twins.put(text.toString(), random.nextInt(256)) && (random.nextBoolean() ? twins.call("look") : twins.call("drank", random.nextInt(2)));
     }
 
     private boolean drawn(Method method) throws Exception {
@@ -114,7 +84,7 @@ public final class ModelTest {
         for (int i = 0; i < args.length; i++) {
             args[i] = types[i] == boolean.class ? (Object) random.nextInt(2) : (Object) number(method.getName(), i);
         }
-        return callBoth(method.getName(), args);
+        return twins.call(method.getName(), args);
     }
 
     private int number(String name, int place) {
@@ -128,38 +98,8 @@ public final class ModelTest {
         }
         int bound = people ? 256 : many ? 40 : name.equals("free") ? 300 : name.equals("count") ? 14
             : name.equals("feed") || name.equals("seed") ? Integer.MAX_VALUE : name.equals("log") && place == 0 ? 62
-            : Math.max(5, model.count(0)) + (random.nextInt(6) == 0 ? 2 : 0);
+            : Math.max(5, twins.model.count(0)) + (random.nextInt(6) == 0 ? 2 : 0);
         return random.nextInt(bound);
-    }
-
-    private boolean callBoth(String name, Object... args) throws Exception {
-        Object due = answer(Model.class, model, name, args);
-        Object got = answer(SharedCup.class, cup, name, args);
-        String call = name + Arrays.toString(args);
-        story.add(call + " -> " + due);
-        check.same(call, got, due);
-        return got.equals(due);
-    }
-
-    private static Object answer(Class<?> type, Object target, String name, Object[] args) throws Exception {
-        for (Method method : type.getDeclaredMethods()) {
-            if (!method.getName().equals(name) || !java.lang.reflect.Modifier.isPublic(method.getModifiers())) {
-                continue;
-            }
-            Object[] fit = args.clone();
-            for (int i = 0; i < fit.length; i++) {
-                if (method.getParameterTypes()[i] == boolean.class) {
-                    fit[i] = !fit[i].equals(0);
-                }
-            }
-            try {
-                Object result = method.invoke(target, fit);
-                return result == null ? "nothing" : result;
-            } catch (InvocationTargetException thrown) {
-                return thrown.getCause().getClass().getName();
-            }
-        }
-        throw new IllegalStateException(name);
     }
 
     // ---- texts
@@ -170,7 +110,7 @@ public final class ModelTest {
 
     private String houseText() {
         StringBuilder text = new StringBuilder(gap());
-        int people = model.count(0);
+        int people = twins.model.count(0);
         int lines = random.nextInt(12) == 0 ? 13 + random.nextInt(3) : random.nextInt(12);
         for (int line = 0; line < lines; line++) {
             int kind = random.nextInt(people < 3 ? 3 : 13);
