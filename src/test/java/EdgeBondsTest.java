@@ -17,6 +17,7 @@ public final class EdgeBondsTest {
         widestOfSeveral();
         widestOfNone();
         widestCountsAllPairs();
+        widestByTheLeastBond();
         partsOfNoneAndOfAll();
         partsOfTwoThatAreNone();
         loversOfNoneAndOfAll();
@@ -25,6 +26,7 @@ public final class EdgeBondsTest {
         steadyLeftOut();
         steadyFirst();
         steadyNone();
+        steadyAskedAgain();
         steadyPeopleThatAreNone();
         fondestOfNoneAndOfAll();
         fondestLeavesOut();
@@ -185,6 +187,21 @@ public final class EdgeBondsTest {
         CHECK.is("three", x.widest(0, 3), 0b1011);
         SharedCup y = Check.onLastDay(Check.people(3));
         CHECK.is("on the last DAY none holds", y.widest(0, 2), 0b011);
+        Check.house(y, "binds 1");
+        Check.law(y, "bind 1 if one > 0");
+        CHECK.is("though a CUP gives some a BOND then", y.widest(1, 2), 0b011);
+    }
+
+    /** The least BOND, 1, holds as any other one; 0 binds nobody. */
+    private static void widestByTheLeastBond() {
+        SharedCup x = eight("binds 1", "bond 0 1 1 till 9");
+        CHECK.is("BINDS 1", x.widest(0, 2), 0b00000101);
+        CHECK.is("half of 1", x.widest(1, 2), 0b00000011);
+        Check.law(x, "bind 1 if one > 5");
+        CHECK.is("half of 2", x.widest(1, 2), 0b11000000);
+        CHECK.is("half of 2 among three", x.widest(1, 3), 0b11000001);
+        Check.law(x, "bind 1 if one > 3 and other < 7");
+        CHECK.is("4, 5 and 6", x.widest(1, 3), 0b01110000);
     }
 
     /** "PARTS: the fewest BONDS to be washed off, so that two are not in one CIRCLE: how many." */
@@ -300,6 +317,16 @@ public final class EdgeBondsTest {
         }
     }
 
+    /** What was asked before does not count. */
+    private static void steadyAskedAgain() {
+        SharedCup x = Check.of(Check.people(4));
+        CHECK.is("three ways", x.steady(-1), 3);
+        CHECK.is("three ways again", x.steady(-1), 3);
+        Check.house(x, "likes 0 0009;likes 3 9000");
+        CHECK.is("0 has 3 then", x.steady(0), 3);
+        CHECK.is("one way then", x.steady(-1), 1);
+    }
+
     /** "IndexOutOfBoundsException: there is no such PERSON." */
     private static void steadyPeopleThatAreNone() {
         SharedCup x = eight();
@@ -327,6 +354,8 @@ public final class EdgeBondsTest {
         CHECK.is("the middle alone", x.fondest(), 8);
         Check.house(x, "likes 0 0500;likes 2 0004");
         CHECK.is("both ends", x.fondest(), 9);
+        CHECK.is("0 with 2, 1 with 3", Check.of(Check.people(4), "likes 0 0090;likes 1 0009").fondest(), 18);
+        CHECK.is("0 with 3, 1 with 2", Check.of(Check.people(4), "likes 0 0009;likes 1 0090").fondest(), 18);
         CHECK.is("of three the best two", Check.of(Check.people(3), "likes 0 012;likes 1 003").fondest(), 3);
     }
 

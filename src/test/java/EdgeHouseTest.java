@@ -217,6 +217,7 @@ public final class EdgeHouseTest {
         wrong("flour ;day 1", 6);
         wrong("flour ab cd", 9);
         wrong("flour ab1", 8);
+        wrong("flour az", 6);
         wrong("floura", 0);
     }
 
@@ -288,6 +289,10 @@ public final class EdgeHouseTest {
         wrong("personat 0", 0);
         wrong("person atx 0", 7);
         wrong("persona", 0);
+        wrong("personz at 0", 0);
+        wrong("zperson at 0", 0);
+        wrong("person{at 0", 6);
+        wrong("person`at 0", 6);
         wrong("perso", 0);
         wrong("Person at 0", 0);
         wrong("bond 0 1 9 tills 9", 11);

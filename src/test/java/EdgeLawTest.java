@@ -26,6 +26,8 @@ public final class EdgeLawTest {
         oneIsTheLesser();
         belowAndAbove();
         wedAndBound();
+        wedAndBoundAmongOthers();
+        eachKindAsksAnew();
         likingOfBoth();
         dayToTheLast();
         andBeforeOr();
@@ -410,6 +412,46 @@ public final class EdgeLawTest {
         CHECK.is("a BOND that does not hold at its TILL", x.told(2, 3, 0, 2, 1), 100);
         x.days(1);
         CHECK.is("nor the other one then", x.told(0, 1, 0, 2, 1), 100);
+    }
+
+    /** Both are facts as any comparison is: with not, and, or. */
+    private static void wedAndBoundAmongOthers() {
+        SharedCup x = Check.of(Check.people(2), "wed 0 1;bond 0 1 1 till 9");
+        for (String fact : new String[] {"wed", "bound"}) {
+            CHECK.yes(fact, holds(x, fact, 0, 2));
+            CHECK.no("not " + fact, holds(x, "not " + fact, 0, 2));
+            CHECK.yes("not not " + fact, holds(x, "not not " + fact, 0, 2));
+            CHECK.yes(fact + " and a comparison", holds(x, fact + " and 1 < 2", 0, 2));
+            CHECK.yes("a comparison and " + fact, holds(x, "1 < 2 and " + fact, 0, 2));
+            CHECK.no(fact + " and another", holds(x, fact + " and 2 < 1", 0, 2));
+            CHECK.yes("another or " + fact, holds(x, "2 < 1 or " + fact, 0, 2));
+        }
+        CHECK.yes("wed and bound", holds(x, "wed and bound", 0, 2));
+        SharedCup y = two();
+        CHECK.no("neither", holds(y, "wed or bound", 0, 2));
+        CHECK.yes("not (neither)", holds(y, "not (wed or bound)", 0, 2));
+    }
+
+    /** Each kind of LINE asks of the two, the SIP and so many that it is told of, whatever was asked before. */
+    private static void eachKindAsksAnew() {
+        SharedCup x = Check.of(Check.people(3), "binds 1;lasts 1");
+        Check.law(x, "bind 1 if one < 1;bind 2 if sip > 2;bind 4 if many > 7;last 1 if one < 1;last 2 if sip > 2;last 4 if many > 7"
+            + ";suspect 1 if one < 1;suspect 2 if other > 1");
+        int[][] asked = {{0, 1, 0, 2}, {1, 2, 0, 2}, {1, 2, 3, 2}, {2, 0, 0, 8}, {1, 2, 0, 8}, {0, 1, 3, 8}, {2, 1, 0, 2}};
+        int[] due = {2, 1, 3, 6, 5, 8, 1};
+        int[] suspects = {1, 2, 2, 3, 2, 1, 2};
+        for (int k = 0; k < asked.length; k++) {
+            int[] a = asked[k];
+            CHECK.is("BINDS " + k, x.told(a[0], a[1], a[2], a[3], 0), due[k]);
+        }
+        for (int k = 0; k < asked.length; k++) {
+            int[] a = asked[k];
+            CHECK.is("LASTS " + k, x.told(a[0], a[1], a[2], a[3], 1), due[k]);
+        }
+        for (int k = 0; k < asked.length; k++) {
+            int[] a = asked[k];
+            CHECK.is("SUSPECTS " + k, x.told(a[0], a[1], a[2], a[3], 2), suspects[k]);
+        }
     }
 
     /** "liking: that of both for one another, together" */
