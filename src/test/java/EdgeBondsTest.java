@@ -410,6 +410,7 @@ public final class EdgeBondsTest {
         CHECK.is("what does not hold", eight("bond 6 7 9 till 9;day 9").hub(), -1);
         CHECK.is("of the last two", eight("bond 6 7 9 till 9").hub(), 6);
         CHECK.is("of all", allBound().hub(), 0);
+        CHECK.is("of a row, whose ends have fewer", eight(ROW).hub(), 1);
         CHECK.is("by how many, not by how much", eight("bond 0 1 9 till 9;bond 7 5 1 till 9;bond 7 6 1 till 9").hub(), 7);
     }
 }
