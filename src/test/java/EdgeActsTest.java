@@ -26,12 +26,16 @@ public final class EdgeActsTest {
         oneGreaterOneLater();
         whatDoesNotHoldIsNotLookedAt();
         allShare();
+        aCupAsksTheLawOfEachTwo();
+        aCupAsksTheLawOfItsSipAndSoMany();
         tillTheLastDay();
         lastDayBindsNobody();
         washedOff();
         goToEachRoom();
         strewEachRoom();
         wedOrNot();
+        wedByAnAct();
+        theWedMayBeBound();
         clearedFrom99();
         daysOneToSixty();
         dayAtMost9999();
@@ -39,6 +43,7 @@ public final class EdgeActsTest {
         seedGoesRound();
         moveByNumbers();
         footprintNeedsAll();
+        suspectedByTheLawOfEachTwo();
         CHECK.close();
     }
 
@@ -335,6 +340,33 @@ public final class EdgeActsTest {
         CHECK.is("again", x.share(255, 0), 0);
     }
 
+    /** "of each two of them, in the order of one, then other": what it BINDS and what it LASTS is of these two. */
+    private static void aCupAsksTheLawOfEachTwo() {
+        SharedCup x = Check.of(Check.people(3), "binds 1;lasts 1");
+        Check.law(x, "bind 1 if one < 1;bind 2 if other > 1;last 1 if one < 1;last 2 if other > 1");
+        CHECK.is("would", x.would(7, 0), 3);
+        CHECK.is("share", x.share(7, 0), 3);
+        int[][] due = {{0, 1, 2}, {0, 2, 4}, {1, 2, 3}};
+        for (int[] pair : due) {
+            CHECK.is("BOND of " + pair[0] + " and " + pair[1], x.bond(pair[0], pair[1], false), pair[2]);
+            CHECK.is("TILL of " + pair[0] + " and " + pair[1], x.bond(pair[0], pair[1], true), pair[2]);
+        }
+        CHECK.is("would again", x.would(7, 0), 0);
+    }
+
+    /** "sip: 0 to 3; many: how many share the cup" */
+    private static void aCupAsksTheLawOfItsSipAndSoMany() {
+        int[][] due = {{3, 0, 1, 1}, {3, 1, 0, -1}, {3, 2, 4, 2}, {7, 0, 3, 3}, {7, 1, 1, 3}, {7, 2, 8, 4}};
+        for (int[] cup : due) {
+            SharedCup x = Check.of(Check.people(3), "binds 1;lasts 1");
+            Check.law(x, "bind 1 if sip > 1;bind 2 if many > 2;last 1 if sip > 1;last 2 if many > 2");
+            x.share(cup[0], cup[1]);
+            String name = " of a cup of " + cup[0] + " with SIP " + cup[1];
+            CHECK.is("BOND" + name, x.bond(0, 1, false), cup[2]);
+            CHECK.is("TILL" + name, x.bond(0, 1, true), cup[3]);
+        }
+    }
+
     private static SharedCup onDay(int day, String text) {
         SharedCup x = Check.of(Check.people(2), text + ";day 999");
         int left = day - 999;
@@ -457,6 +489,38 @@ public final class EdgeActsTest {
         CHECK.is("two pairs", y.count(8), 2);
     }
 
+    private static void wedByAnAct() {
+        SharedCup x = Check.of(Check.people(3));
+        x.wed(0, 1);
+        CHECK.state("the first", () -> x.wed(0, 2));
+        CHECK.state("the other", () -> x.wed(2, 1));
+        CHECK.yes("undo()", x.undo());
+        x.wed(2, 1);
+        CHECK.is("1 is WED to 2", x.person(1, 1), 2);
+        CHECK.is("0 to none", x.person(0, 1), -1);
+    }
+
+    /** A BOND of two who are WED to each other is a BOND as any other; it is no SECRET alone. */
+    private static void theWedMayBeBound() {
+        SharedCup x = Check.of(Check.people(3), "wed 0 1;bond 0 1 7 till 50;bond 1 2 3 till 60");
+        CHECK.is("BOND", x.bond(0, 1, false), 7);
+        CHECK.is("TILL", x.bond(1, 0, true), 50);
+        CHECK.is("BOUND to 1", x.person(1, 4), 0b101);
+        CHECK.is("CIRCLE of 0", x.person(0, 5), 0b111);
+        CHECK.is("MOST of 1", x.person(1, 7), 0);
+        CHECK.is("BONDS", x.count(9), 2);
+        CHECK.is("SECRETS", x.secrets(), 1);
+        CHECK.is("FREE on DAY 49", x.free(49), 0);
+        CHECK.is("FREE on DAY 50", x.free(50), 0b001);
+        CHECK.is("steps from 0 to 2", x.between(0, 2), 2);
+        CHECK.is("ODDS", x.odds(0, 1), 49);
+        CHECK.is("as great, but later", x.would(3, 0), 1);
+        CHECK.is("wash", x.wash(0, 1), 7);
+        SharedCup y = Check.of("person at 0;person at 3;wed 0 1;bond 0 1 9 till 77");
+        CHECK.is("ENDS", y.ends(), 77);
+        CHECK.is("one goes to the other", y.ahead(0, 1, false), 3);
+    }
+
     /** "Cleared: SUSPECTED that it was" */
     private static void clearedFrom99() {
         SharedCup x = Check.of(Check.people(2), "flour a;bond 0 1 1 till 999");
@@ -559,6 +623,18 @@ public final class EdgeActsTest {
             "bond 0 1 3 till 9;bond 1 2 2 till 9;bond 2 3 1 till 9");
         for (int person = 0; person < 4; person++) {
             CHECK.is("all behind 0: " + person, y.ahead(person, 1, false), 1);
+        }
+    }
+
+    /** "SUSPECTED of both is more by what it SUSPECTS them by" */
+    private static void suspectedByTheLawOfEachTwo() {
+        SharedCup x = Check.of(Check.people(3), "flour a");
+        Check.law(x, "suspect 1 if one < 1;suspect 2 if other > 1");
+        x.share(7, 0);
+        CHECK.is("footprints", x.days(1), 3);
+        int[] due = {1 + 3, 1 + 2, 3 + 2};
+        for (int person = 0; person < 3; person++) {
+            CHECK.is("SUSPECTED of " + person, x.person(person, 2), due[person]);
         }
     }
 

@@ -21,6 +21,7 @@ public final class EdgeBackTest {
         backWithoutAnImage();
         imageOfAnEmptyHouse();
         imageOfAFullHouse();
+        whoIsGoneCountsForNothing();
         oneImage();
         imageStays();
         backLeavesTheTape();
@@ -293,6 +294,28 @@ public final class EdgeBackTest {
             CHECK.yes("back()", x.back());
             CHECK.same("all is as it was", Check.all(x), before);
         }
+    }
+
+    /** "Sets are bits; of none they count for nothing", nor do those who came behind THE IMAGE. */
+    private static void whoIsGoneCountsForNothing() {
+        SharedCup x = Check.of(Check.people(2));
+        Check.law(x, "bind 1 if many > 2");
+        x.image();
+        Check.house(x, Check.people(6));
+        CHECK.is("eight", x.count(0), 8);
+        CHECK.yes("back()", x.back());
+        CHECK.argument("share with one who is gone", () -> x.share(0b101, 0));
+        CHECK.argument("would with one who is gone", () -> x.would(0b110, 0));
+        CHECK.index("who is gone", () -> x.person(2, 0));
+        CHECK.is("share of all bits", x.share(-1, 0), 1);
+        CHECK.is("they are two", x.bond(0, 1, false), 5);
+        CHECK.is("they are two who would", x.would(-1, 0), 0);
+        CHECK.is("would of all bits", x.would(-1, 2), 1);
+        CHECK.is("FREE", x.free(9999), 0b11);
+        CHECK.is("sets who drank", x.drank(false), 4);
+        CHECK.is("ways", x.steady(-1), 1);
+        x.days(1);
+        CHECK.is("MET", x.person(0, 3), 0b10);
     }
 
     /** "THE IMAGE (one) of all may be kept" */

@@ -18,6 +18,8 @@ public final class EdgeBondsTest {
         widestOfNone();
         widestCountsAllPairs();
         widestByTheLeastBond();
+        widestByTheLawOfEachTwo();
+        widestOfTheWed();
         partsOfNoneAndOfAll();
         partsOfTwoThatAreNone();
         loversOfNoneAndOfAll();
@@ -202,6 +204,26 @@ public final class EdgeBondsTest {
         CHECK.is("half of 2 among three", x.widest(1, 3), 0b11000001);
         Check.law(x, "bind 1 if one > 3 and other < 7");
         CHECK.is("4, 5 and 6", x.widest(1, 3), 0b01110000);
+    }
+
+    private static void widestByTheLawOfEachTwo() {
+        SharedCup x = eight("binds 1");
+        Check.law(x, "bind 1 if other > 6");
+        CHECK.is("by the other one", x.widest(1, 2), 0b10000001);
+        Check.law(x, "bind 1 if one > 6");
+        CHECK.is("nobody is bound to oneself", x.widest(1, 2), 0b00000011);
+        Check.law(x, "bind 1 if many > 2 and one > 4");
+        CHECK.is("by so many: two", x.widest(1, 2), 0b00000011);
+        CHECK.is("by so many: three", x.widest(1, 3), 0b11100000);
+        Check.law(x, "bind 1 if sip > 0 and many < 4 and one > 4");
+        CHECK.is("by the SIP and so many: three", x.widest(1, 3), 0b11100000);
+        CHECK.is("by the SIP and so many: four", x.widest(1, 4), 0b00001111);
+    }
+
+    private static void widestOfTheWed() {
+        SharedCup x = eight("wed 0 1;bond 0 1 1 till 9");
+        CHECK.is("the WED who are bound hold before", x.widest(0, 2), 0b00000101);
+        CHECK.is("the WED who are not bound are as all others", eight("wed 0 1").widest(0, 2), 0b00000011);
     }
 
     /** "PARTS: the fewest BONDS to be washed off, so that two are not in one CIRCLE: how many." */

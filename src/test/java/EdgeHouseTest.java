@@ -348,6 +348,10 @@ public final class EdgeHouseTest {
             wrong(text, text.length());
             wrong(text + "   ", text.length() + 3);
         }
+        wrong("bond 0 1 till 5", 9);
+        wrong("bond 0 till 5", 7);
+        wrong("bond till 5", 5);
+        wrong("person 0", 7);
         wrong(Check.times("day 1", 14, ";") + ";", 84);
         wrong(Check.times("day 1", 14, ";") + ";  ", 86);
     }

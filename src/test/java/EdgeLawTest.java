@@ -17,6 +17,8 @@ public final class EdgeLawTest {
         whatCannotStandThere();
         inPlaceOfTheOneBefore();
         ofAWrongLawNothingStays();
+        daysKeepToTheLawThatIsRight();
+        imageIsOfTheLawThatIsRight();
         fullTape();
         deepestAndLongest();
         bindsNineAtMost();
@@ -24,6 +26,7 @@ public final class EdgeLawTest {
         suspectsWithoutAText();
         sipAndManyAreNoughtThere();
         oneIsTheLesser();
+        bindLinesAskOfBoth();
         belowAndAbove();
         wedAndBound();
         wedAndBoundAmongOthers();
@@ -285,6 +288,37 @@ public final class EdgeLawTest {
         CHECK.yes("the act is remembered", x.undo());
     }
 
+    /** "Of a wrong text nothing stays", nor on the DAYS behind it. */
+    private static void daysKeepToTheLawThatIsRight() {
+        SharedCup x = Check.of(Check.people(2), "flour a;bond 0 1 1 till 99");
+        Check.law(x, "suspect 4");
+        CHECK.argument("a wrong one", () -> Check.law(x, "suspect 50;x"));
+        CHECK.is("ahead", x.ahead(0, 1, true), 4);
+        CHECK.is("trial", x.trial(1, true), 8);
+        CHECK.is("days", x.days(1), 1);
+        CHECK.is("SUSPECTED", x.person(0, 2), 4);
+        SharedCup y = Check.of(Check.people(2), "flour a;bond 0 1 1 till 99");
+        CHECK.argument("a wrong one alone", () -> Check.law(y, "suspect 50;x"));
+        CHECK.is("days without a law", y.days(1), 1);
+        CHECK.is("SUSPECTED by 5", y.person(0, 2), 5);
+    }
+
+    private static void imageIsOfTheLawThatIsRight() {
+        SharedCup x = Check.of(Check.people(2), "flour a;bond 0 1 1 till 99");
+        Check.law(x, "suspect 4");
+        CHECK.argument("a wrong one", () -> Check.law(x, "suspect 50;x"));
+        x.image();
+        Check.law(x, "suspect 9;bind 1");
+        CHECK.is("ahead by the later law", x.ahead(0, 1, true), 9);
+        CHECK.is("trial by the later law", x.trial(1, true), 18);
+        x.days(1);
+        CHECK.is("days by the later law", x.person(0, 2), 9);
+        CHECK.yes("back()", x.back());
+        CHECK.is("LINES of the image", x.count(2), 1);
+        CHECK.is("told by the law of the image", x.told(0, 1, 0, 2, 2), 4);
+        CHECK.is("trial by the law of the image", x.trial(1, true), 8);
+    }
+
     /** A text of 400 bytes is read to its last one. */
     private static void fullTape() {
         SharedCup x = two();
@@ -374,6 +408,8 @@ public final class EdgeLawTest {
         Check.house(x, "flour a;bond 0 1 1 till 9");
         CHECK.is("on a DAY", x.days(1), 1);
         CHECK.is("SUSPECTED", x.person(0, 2), 3);
+        Check.law(x, "suspect 1 if sip + 1 > 0;suspect 2 if 1 + many > 0");
+        CHECK.is("no less than 0", x.told(0, 1, 3, 8, 2), 3);
     }
 
     /** "Of two (one: the lesser number, other: the greater one)" */
@@ -385,6 +421,17 @@ public final class EdgeLawTest {
         CHECK.is("6 and 7", x.told(7, 6, 0, 2, 1), 110);
         CHECK.is("0 and 1", x.told(1, 0, 0, 2, 1), 101);
         CHECK.is("5 and 6", x.told(5, 6, 0, 2, 1), 100);
+    }
+
+    private static void bindLinesAskOfBoth() {
+        SharedCup x = Check.of(Check.people(3), "binds 1;wed 0 2;bond 1 2 1 till 9;likes 0 050");
+        Check.law(x, "bind 1 if other > 1;bind 2 if wed;bind 3 if bound;bind 4 if liking > 4");
+        CHECK.is("0 and 1: liking", x.told(0, 1, 0, 2, 0), 5);
+        CHECK.is("1 and 0: liking", x.told(1, 0, 0, 2, 0), 5);
+        CHECK.is("0 and 2: other, wed", x.told(0, 2, 0, 2, 0), 4);
+        CHECK.is("2 and 0: other, wed", x.told(2, 0, 0, 2, 0), 4);
+        CHECK.is("1 and 2: other, bound", x.told(1, 2, 0, 2, 0), 5);
+        CHECK.is("2 and 1: other, bound", x.told(2, 1, 0, 2, 0), 5);
     }
 
     /** "SUM < SUM | SUM > SUM" */

@@ -20,6 +20,7 @@ public final class EdgeSearchTest {
         wayOwnRoomIsNotLookedAt();
         wayRoundTheOtherSide();
         wayOfNone();
+        wayBehindActs();
         unseenOfSeveral();
         unseenNone();
         trapOneToSix();
@@ -249,6 +250,24 @@ public final class EdgeSearchTest {
         CHECK.is("shut on one side alone", at(0, "bc").way(0, 3), 3);
     }
 
+    /** Acts count, and those that are undone do not. */
+    private static void wayBehindActs() {
+        SharedCup x = atBoth(0, 0, "");
+        x.go(0, 4);
+        CHECK.is("where one went", x.way(0, 4), 0);
+        CHECK.is("from there", x.way(0, 1), 3);
+        CHECK.is("all ROOMS between are as good", x.unseen(0, 1), 0);
+        x.go(1, 4);
+        CHECK.is("where both went", x.unseen(0, 1), 4);
+        x.strew(4, true);
+        CHECK.is("beside it", x.unseen(1, 0), 3);
+        x.undo();
+        x.undo();
+        x.undo();
+        CHECK.is("where both were", x.unseen(0, 1), 0);
+        CHECK.is("where one was", x.way(0, 0), 0);
+    }
+
     private static SharedCup atBoth(int one, int other, String flour) {
         SharedCup x = Check.of("person at " + one + ";person at " + other);
         if (!flour.isEmpty()) {
@@ -368,6 +387,12 @@ public final class EdgeSearchTest {
         }
         CHECK.is("all of them", y.alibi(0), 0b111110);
         CHECK.is("none of the others", y.alibi(1), 0);
+        SharedCup z = Check.of("person at 0;person at 0;person at 3");
+        z.days(1);
+        CHECK.is("0 for 1", z.alibi(1), 0b001);
+        CHECK.is("1 for 0", z.alibi(0), 0b010);
+        z.undo();
+        CHECK.is("undone", z.alibi(1), 0);
     }
 
     /** "ODDS of two: in how many of 100 both go to their MOST (.. 0, if one is not bound)" */
@@ -382,6 +407,12 @@ public final class EdgeSearchTest {
         CHECK.is("9 and 1, each to its own", x.odds(0, 3), 9);
         Check.house(x, "day 5");
         CHECK.is("what does not hold", x.odds(0, 1), 0);
+        x.share(3, 2);
+        CHECK.is("behind a CUP", x.odds(0, 1), 81);
+        x.wash(0, 1);
+        CHECK.is("washed off", x.odds(0, 1), 0);
+        x.undo();
+        CHECK.is("that undone", x.odds(0, 1), 81);
     }
 
     /** "IndexOutOfBoundsException: there is no such PERSON", told ahead of "both are one" */
